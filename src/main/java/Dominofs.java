@@ -921,11 +921,13 @@ public final class Dominofs {
             }
         }
 
-        void begin(House house, int seed) {
-            if (gameCount >= 0 && gameCount < MOST_GAMES) {
-                games[gameCount].begin(house, seed);
-                gameCount++;
+        /** The next slot, counted from now on as a game; null if all are games. */
+        Game openGame() {
+            if (gameCount < 0 || gameCount >= MOST_GAMES) {
+                return null;
             }
+            gameCount++;
+            return games[gameCount - 1];
         }
 
         void putIntoPool(Game at, int better, int player, int coins) {
@@ -1027,7 +1029,10 @@ public final class Dominofs {
         }
 
         void doOn(Table table) {
-            table.begin(house, seed);
+            Game at = table.openGame();
+            if (at != null) {
+                at.begin(house, seed);
+            }
         }
     }
 
