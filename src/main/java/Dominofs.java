@@ -590,7 +590,6 @@ public final class Dominofs {
         int winner;
         char ruling;
         int appeals;
-        boolean isPaid;
         final Bets bets;
 
         Game(House noHouse) {
@@ -598,8 +597,6 @@ public final class Dominofs {
             order = new int[MOST_TILES];
             hands = new int[MOST_PLAYERS];
             chain = new int[MOST_TILES + 1];
-            winner = NOT_OVER;
-            ruling = noHouse.ruling;
             bets = new Bets();
         }
 
@@ -615,7 +612,6 @@ public final class Dominofs {
             winner = NOT_OVER;
             ruling = at.ruling;
             appeals = 0;
-            isPaid = false;
             bets.clear();
         }
 
@@ -660,7 +656,6 @@ public final class Dominofs {
             winner = other.winner;
             ruling = other.ruling;
             appeals = other.appeals;
-            isPaid = other.isPaid;
             bets.become(other.bets);
         }
 
@@ -668,7 +663,7 @@ public final class Dominofs {
             return house == other.house && dealt == other.dealt && laid == other.laid && mover == other.mover
                     && lastLayer == other.lastLayer && passes == other.passes && isStuck == other.isStuck
                     && winner == other.winner && ruling == other.ruling && appeals == other.appeals
-                    && isPaid == other.isPaid && areTilesLike(other) && bets.isLike(other.bets);
+                    && areTilesLike(other) && bets.isLike(other.bets);
         }
 
         private boolean areTilesLike(Game other) {
@@ -912,11 +907,12 @@ public final class Dominofs {
             }
         }
 
+        /** Pays whenever the game is over then: behind its end come only appeals, and these took back what was paid. */
         void perform(Entry entry) {
             done++;
             entry.doOn(this);
             Game at = gameAt(entry.game);
-            if (at != null && at.isDone() && !at.isPaid) {
+            if (at != null && at.isDone()) {
                 pay(at);
             }
         }
@@ -938,13 +934,11 @@ public final class Dominofs {
         private void pay(Game at) {
             clubCoins += at.bets.share(at.winner);
             movePayments(at, 1);
-            at.isPaid = true;
         }
 
         void takeBack(Game at) {
             clubCoins -= at.bets.coinsLeft();
             movePayments(at, -1);
-            at.isPaid = false;
         }
 
         private void movePayments(Game at, int times) {
