@@ -7,6 +7,17 @@ public final class AllTests {
         Checks checks = new Checks();
         FaceTest.run(checks);
         PromiseTest.run(checks);
+        Cases cases = new Cases(checks);
+        TermsTest.run(cases);
+        HousesTest.run(cases);
+        MovesTest.run(cases);
+        GameNumbersTest.run(cases);
+        LooksTest.run(cases);
+        BetsTest.run(cases);
+        JournalTest.run(cases);
+        FiguresTest.run(cases);
+        SoundTest.run(cases);
+        cases.tellUncited();
         LimitTest.run(checks);
         RandomTest.run(checks);
         System.out.println(checks.passed() + " passed, " + checks.failed() + " failed");

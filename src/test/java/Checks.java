@@ -1,10 +1,13 @@
 import java.lang.reflect.InvocationTargetException;
 import java.lang.reflect.Method;
-import java.util.ArrayList;
-import java.util.List;
+import java.lang.reflect.Modifier;
+import java.util.HashMap;
+import java.util.Map;
 
-/** Counts what is as it is due, and runs calls that are written as the document's example writes them. */
+/** Counts what is as it is due, and asks for answers as the document writes them. */
 final class Checks {
+    private static final Map<String, Method> METHODS = new HashMap<>();
+
     private int passed;
     private int failed;
 
@@ -25,55 +28,18 @@ final class Checks {
         return passed;
     }
 
-    /**
-     * Runs "call(..) = answer" or "call(..) = throws Exception" rows, each with a ';' behind it, on a new object; then
-     * looks whether replays agree with what is.
-     */
+    /** Runs rows on a new object; then looks whether replays agree with what is. */
     void script(String name, String rows) {
-        script(name, new Dominofs(), rows);
+        script(name, new Caller(), rows);
     }
 
-    void script(String name, Dominofs club, String rows) {
-        for (String row : rows.split(";")) {
-            String text = row.strip().replaceAll("\\s+", " ");
-            if (text.endsWith(".")) {
-                text = text.substring(0, text.length() - 1);
-            }
-            if (!text.isEmpty()) {
-                row(name, club, text);
-            }
+    void script(String name, Caller caller, String rows) {
+        for (Rows.Row row : Rows.of(rows)) {
+            due(name + ": " + row.call(), row.answer(), caller.ask(row.call()));
         }
-        due(name + ": isSound() at the end", true, club.isSound());
-        due(name + ": replay(-1) at the end", club.checksum(), club.replay(-1));
-    }
-
-    private void row(String name, Dominofs club, String text) {
-        int middle = text.indexOf(") = ");
-        String call = text.substring(0, middle + 1);
-        String answer = text.substring(middle + 4);
-        String method = call.substring(0, call.indexOf('('));
-        String inside = call.substring(call.indexOf('(') + 1, call.length() - 1).strip();
-        due(name + ": " + call, answer, answer(club, method, arguments(inside)));
-    }
-
-    private static Object[] arguments(String inside) {
-        List<Object> list = new ArrayList<>();
-        if (!inside.isEmpty()) {
-            for (String part : inside.split(", *")) {
-                list.add(argument(part));
-            }
-        }
-        return list.toArray();
-    }
-
-    private static Object argument(String part) {
-        if (part.equals("true") || part.equals("false")) {
-            return part.equals("true");
-        }
-        if (part.startsWith("'")) {
-            return part.charAt(1);
-        }
-        return Integer.parseInt(part);
+        due(name + ": isSound() at the end", "true", caller.ask("isSound()"));
+        due(name + ": replay(-1) at the end", caller.ask("checksum()"), caller.ask("replay(-1)"));
+        due(name + ": no more calls than are promised", true, caller.calls() <= Caller.MOST_CALLS);
     }
 
     /** The answer of a call as the document writes it. */
@@ -95,9 +61,13 @@ final class Checks {
         return thrown.getClass().getSimpleName() + (isOwn ? "" : " by the machine");
     }
 
-    static Method find(Class<?> type, String name) {
+    private static Method find(Class<?> type, String name) {
+        return METHODS.computeIfAbsent(type.getName() + "." + name, key -> search(type, name));
+    }
+
+    private static Method search(Class<?> type, String name) {
         for (Method method : type.getDeclaredMethods()) {
-            if (method.getName().equals(name) && !java.lang.reflect.Modifier.isPrivate(method.getModifiers())) {
+            if (method.getName().equals(name) && !Modifier.isPrivate(method.getModifiers())) {
                 method.setAccessible(true);
                 return method;
             }

@@ -6,16 +6,6 @@ final class PromiseTest {
         lay(0, 4, true) = false; lay(0, 2, true) = false; pass(0) = false; pass(0) = true;
         """;
 
-    /** Two players, two tiles each, draws; to be blocked with 2 and 4 pips left, the player 1 laid last. */
-    private static final String DRAWN_HOUSE = "house(2, 2, 2, true, 'l') = 0; game(0, 10) = 0;";
-    private static final String DRAWN_PLAY = """
-        lay(0, 0, true) = false; lay(0, 2, true) = false; draw(0) = 4; lay(0, 4, true) = false; draw(0) = 1;
-        lay(0, 1, true) = false; pass(0) = false; pass(0) = true;
-        """;
-    private static final String FOUR_BETS = """
-        bet(0, 0, 0, 30) = 30; bet(1, 0, 1, 20) = 50; bet(2, 0, 0, 10) = 60; bet(3, 0, 1, 7) = 67;
-        """;
-
     private final Checks checks;
 
     private PromiseTest(Checks checks) {
@@ -78,7 +68,7 @@ final class PromiseTest {
             gameOf(0) = throws NoSuchElementException; behind(0) = throws IndexOutOfBoundsException;
             replay(0) = throws IndexOutOfBoundsException; flush() = 0; crash() = 0; checkpoint() = 0; behind(0) = 0;
             """);
-        Dominofs used = new Dominofs();
+        Caller used = new Caller();
         checks.script("promise 1, one of two", used, BLOCK);
         checks.script("promise 1, the other", "entries() = 0; house(2, 2, 1, true, 'n') = 0; checksum() = 295834457;");
     }
@@ -170,7 +160,7 @@ final class PromiseTest {
     }
 
     private void drawing() {
-        checks.script("promise 5", DRAWN_HOUSE + """
+        checks.script("promise 5", Plays.DRAWN_GAME + """
             hand(0, 0) = 9; hand(0, 1) = 36; stock(0) = 2; draw(0) = throws UnsupportedOperationException;
             lay(0, 0, true) = false; draw(0) = throws UnsupportedOperationException; lay(0, 2, true) = false;
             draw(0) = 4; hand(0, 0) = 24; stock(0) = 1; mover(0) = 0; draw(0) = throws UnsupportedOperationException;
@@ -270,11 +260,11 @@ final class PromiseTest {
             """);
         checks.script("promise 15, ruled 's'", """
             house(2, 2, 2, true, 's') = 0; game(0, 10) = 0;
-            """ + DRAWN_PLAY + "winner(0) = 1; ruling(0) = s;");
-        checks.script("promise 15, ruled 'l'", DRAWN_HOUSE + DRAWN_PLAY + "winner(0) = 0; ruling(0) = l;");
+            """ + Plays.DRAWN_PLAY + "winner(0) = 1; ruling(0) = s;");
+        checks.script("promise 15, ruled 'l'", Plays.DRAWN_GAME + Plays.DRAWN_PLAY + "winner(0) = 0; ruling(0) = l;");
         checks.script("promise 15, ruled 'n'", """
             house(2, 2, 2, true, 'n') = 0; game(0, 10) = 0;
-            """ + DRAWN_PLAY + "winner(0) = -1; ruling(0) = n; isBlocked(0) = true;");
+            """ + Plays.DRAWN_PLAY + "winner(0) = -1; ruling(0) = n; isBlocked(0) = true;");
     }
 
     private void ties() {
@@ -304,7 +294,7 @@ final class PromiseTest {
     }
 
     private void why() {
-        checks.script("promise 16", DRAWN_HOUSE + """
+        checks.script("promise 16", Plays.DRAWN_GAME + """
             why(0) = throws NoSuchElementException; why(-1) = throws NoSuchElementException;
             lay(0, 6, true) = throws IllegalArgumentException; lay(1, 0, true) = throws IndexOutOfBoundsException;
             pass(0) = throws UnsupportedOperationException; draw(0) = throws UnsupportedOperationException;
@@ -347,11 +337,11 @@ final class PromiseTest {
     }
 
     private void payments() {
-        checks.script("promises 18 to 21, cut and the rest to the club", DRAWN_HOUSE + FOUR_BETS + """
+        checks.script("promises 18 to 21, cut and the rest to the club", Plays.DRAWN_GAME + Plays.FOUR_BETS + """
             paid(0, 0) = 0; paid(0, 3) = 0; paid(0, 4) = throws IndexOutOfBoundsException;
             paid(0, -1) = throws IndexOutOfBoundsException; paid(1, 0) = throws IndexOutOfBoundsException;
             paid(0, 2147483647) = throws IndexOutOfBoundsException; club() = 0;
-            """ + DRAWN_PLAY + """
+            """ + Plays.DRAWN_PLAY + """
             winner(0) = 0; paid(0, 0) = 50; paid(0, 1) = 0; paid(0, 2) = 16; paid(0, 3) = 0; club() = 1;
             purse(0) = 120; purse(1) = 80; purse(2) = 106; purse(3) = 93; pool(0) = 67; meanPurse() = 99.75;
             checksum() = 188737533615691; paid(0, 4) = throws IndexOutOfBoundsException;
@@ -363,16 +353,16 @@ final class PromiseTest {
             paid(1, 1) = 0; club() = 40; game(0, 0) = 2; lay(2, 2, true) = true; club() = 40;
             paid(2, 0) = throws IndexOutOfBoundsException;
             """);
-        checks.script("promise 21, nobody won", "house(2, 2, 2, true, 'n') = 0; game(0, 10) = 0;" + FOUR_BETS
-            + DRAWN_PLAY + "club() = 67; paid(0, 0) = 0; purse(0) = 70; checksum() = 188737458795180;");
+        checks.script("promise 21, nobody won", "house(2, 2, 2, true, 'n') = 0; game(0, 10) = 0;" + Plays.FOUR_BETS
+            + Plays.DRAWN_PLAY + "club() = 67; paid(0, 0) = 0; purse(0) = 70; checksum() = 188737458795180;");
     }
 
     private void appeals() {
-        checks.script("promises 22 and 23", DRAWN_HOUSE + FOUR_BETS + """
+        checks.script("promises 22 and 23", Plays.DRAWN_GAME + Plays.FOUR_BETS + """
             appeal(0, 's') = throws UnsupportedOperationException; appeal(0, 'x') = throws IllegalArgumentException;
             appeal(1, 'x') = throws IndexOutOfBoundsException; appeal(-1, 's') = throws IndexOutOfBoundsException;
             ruling(1) = throws IndexOutOfBoundsException; ruling(-1) = throws IndexOutOfBoundsException; ruling(0) = l;
-            """ + DRAWN_PLAY + """
+            """ + Plays.DRAWN_PLAY + """
             appeal(0, 'l') = throws UnsupportedOperationException; appeal(0, 'L') = throws IllegalArgumentException;
             entries() = 13; appeal(0, 's') = 1; winner(0) = 1; ruling(0) = s; isBlocked(0) = true; paid(0, 0) = 0;
             paid(0, 1) = 49; paid(0, 2) = 0; paid(0, 3) = 17; club() = 1; purse(0) = 70; purse(1) = 129; purse(2) = 90;
@@ -422,9 +412,9 @@ final class PromiseTest {
     }
 
     private void owing() {
-        checks.script("promises 18 and 22, a purse below 0", DRAWN_HOUSE + """
+        checks.script("promises 18 and 22, a purse below 0", Plays.DRAWN_GAME + """
             bet(0, 0, 0, 100) = 100; bet(1, 0, 1, 100) = 200;
-            """ + DRAWN_PLAY + """
+            """ + Plays.DRAWN_PLAY + """
             purse(0) = 200; game(0, 10) = 1; bet(0, 1, 0, 200) = 200; purse(0) = 0; appeal(0, 's') = 1;
             purse(0) = -200; purse(1) = 200; meanPurse() = 50.0; bet(0, 1, 0, 1) = throws IllegalArgumentException;
             bet(0, 1, 0, -300) = throws IllegalArgumentException; isSound() = true; checksum() = 8282301193188072001;
@@ -437,11 +427,11 @@ final class PromiseTest {
     }
 
     private void journal() {
-        checks.script("promises 24 to 28", DRAWN_HOUSE + """
+        checks.script("promises 24 to 28", Plays.DRAWN_GAME + """
             entries() = 1; loose() = 1; entry(0) = g; gameOf(0) = 0; entry(1) = throws NoSuchElementException;
             gameOf(1) = throws NoSuchElementException; flush() = 1; flush() = 0; loose() = 0; game(0, 2) = 1;
             bet(0, 1, 0, 3) = 3; loose() = 2;
-            """ + DRAWN_PLAY + """
+            """ + Plays.DRAWN_PLAY + """
             appeal(0, 'n') = -1; entries() = 12; loose() = 11; entry(1) = g; gameOf(1) = 1; entry(2) = b; gameOf(2) = 1;
             entry(3) = t; gameOf(3) = 0; entry(5) = d; entry(9) = p; entry(10) = p; entry(11) = a; gameOf(11) = 0;
             entry(12) = throws NoSuchElementException; entry(-1) = throws NoSuchElementException;
@@ -453,13 +443,13 @@ final class PromiseTest {
     }
 
     private void crashes() {
-        checks.script("promise 29", DRAWN_HOUSE + FOUR_BETS + """
+        checks.script("promise 29", Plays.DRAWN_GAME + Plays.FOUR_BETS + """
             flush() = 5; lay(0, 0, true) = false; lay(0, 2, true) = false; draw(0) = 4; bet(0, 0, 1, 5) = 72;
             game(0, 0) = 1; purse(0) = 65; loose() = 5; crash() = 5; crash() = 0; entries() = 5; loose() = 0;
             hand(0, 0) = 9; hand(0, 1) = 36; stock(0) = 2; line(0) = 0; mover(0) = 0; pool(0) = 67; purse(0) = 70;
             paid(0, 4) = throws IndexOutOfBoundsException; hand(1, 0) = throws IndexOutOfBoundsException;
             entry(5) = throws NoSuchElementException; game(0, 5) = 1; crash() = 1;
-            """ + DRAWN_PLAY + """
+            """ + Plays.DRAWN_PLAY + """
             club() = 1; crash() = 8; club() = 0; isOver(0) = false; isBlocked(0) = false; purse(0) = 70; paid(0, 0) = 0;
             winner(0) = throws NoSuchElementException; playedShare() = 0.0;
             """);
@@ -471,7 +461,7 @@ final class PromiseTest {
     }
 
     private void checkpoints() {
-        checks.script("promises 30 and 31", DRAWN_HOUSE + """
+        checks.script("promises 30 and 31", Plays.DRAWN_GAME + """
             checkpoint() = 0; loose() = 0; flush() = 0; behind(0) = 0; lay(0, 0, true) = false; behind(0) = 1;
             checkpoint() = 1; behind(0) = 1; behind(1) = 0; lay(0, 2, true) = false; draw(0) = 4; behind(1) = 2;
             crash() = 2; behind(0) = 1; behind(1) = 0; entries() = 2; checkpoint() = 2; checkpoint() = 3;
@@ -484,11 +474,11 @@ final class PromiseTest {
     }
 
     private void checkpointsWaitForBets() {
-        checks.script("promise 30, it waits for bets", DRAWN_HOUSE + """
+        checks.script("promise 30, it waits for bets", Plays.DRAWN_GAME + """
             game(0, 0) = 1; bet(3, 0, 0, 2) = 2; checkpoint() = throws UnsupportedOperationException; loose() = 3;
             behind(0) = throws IndexOutOfBoundsException; lay(1, 2, true) = false; lay(1, 1, true) = false;
             lay(1, 4, true) = true; checkpoint() = throws UnsupportedOperationException;
-            """ + DRAWN_PLAY + """
+            """ + Plays.DRAWN_PLAY + """
             checkpoint() = 0; loose() = 0; game(0, 1) = 2; checkpoint() = 1; bet(3, 2, 0, 2) = 2;
             checkpoint() = throws UnsupportedOperationException; crash() = 1; checkpoint() = 2; entries() = 15;
             """);
@@ -502,15 +492,16 @@ final class PromiseTest {
             replay(-2147483648) = throws IndexOutOfBoundsException; lay(1, 2, true) = false; pass(1) = false;
             pass(1) = true; purse(0) = 109; checkpoint() = 1; behind(0) = 9; behind(1) = 0; entries() = 16;
             """);
-        Dominofs club = new Dominofs();
-        checks.script("promise 32, before", club, BLOCK + """
+        Caller caller = new Caller();
+        Dominofs club = caller.club;
+        checks.script("promise 32, before", caller, BLOCK + """
             checkpoint() = 0; game(0, 5) = 1; bet(0, 1, 0, 30) = 30; lay(1, 3, true) = false; flush() = 3;
             lay(1, 1, true) = false;
             """);
         long sum = club.checksum();
         checks.due("promise 32: replay(0) with loose entries", sum, club.replay(0));
         checks.due("promise 32: replay(-1) with loose entries", sum, club.replay(-1));
-        checks.script("promise 32, it changed nothing", club, """
+        checks.script("promise 32, it changed nothing", caller, """
             entries() = 11; loose() = 1; hand(1, 0) = 48; hand(1, 1) = 5; purse(0) = 70; mover(1) = 0; behind(0) = 4;
             crash() = 1; hand(1, 1) = 7;
             """);

@@ -1,0 +1,114 @@
+import java.lang.reflect.Constructor;
+import java.lang.reflect.Field;
+import java.lang.reflect.Method;
+import java.util.List;
+
+/**
+ * No run of calls can make isSound false. So these cases break a club from within; they know the names of its fields
+ * and of its entries, and are to be changed with them.
+ */
+final class SoundTest {
+    private static final String ENTRIES = Plays.QUICK_HOUSE + Plays.quickGame(0)
+        + "bet(0, 0, 1, 30) = 30; bet(1, 0, 0, 9) = 39;" + Plays.quickBlock(0)
+        + "checkpoint() = 0; checkpoint() = 1; checkpoint() = 2; checkpoint() = 3; checkpoint() = 4;"
+        + Plays.quickGame(1) + "lay(1, 3, true) = false; bet(2, 1, 0, 7) = 7; flush() = 3; pass(1) = false;";
+
+    private final Cases cases;
+
+    private SoundTest(Cases cases) {
+        this.cases = cases;
+    }
+
+    static void run(Cases cases) {
+        SoundTest test = new SoundTest(cases);
+        try {
+            test.replays();
+            test.tiles();
+            test.coins();
+        } catch (ReflectiveOperationException e) {
+            cases.promise(36, "Tells whether replays").due("what is within", "as it was", e.toString());
+        }
+    }
+
+    private static Dominofs club() {
+        Caller caller = new Caller();
+        for (Rows.Row row : Rows.of(ENTRIES)) {
+            caller.ask(row.call());
+        }
+        return caller.club;
+    }
+
+    private void replays() throws ReflectiveOperationException {
+        Cases.Case each = cases.promise(36, "Tells whether replays from nothing and from each checkpoint come to what is");
+        Dominofs club = club();
+        moveCoins(each, "what is", club, get(club, "now"));
+        for (int checkpoint = 0; checkpoint < 5; checkpoint++) {
+            Object kept = ((List<?>) get(club, "checkpoints")).get(checkpoint);
+            moveCoins(each, "the checkpoint " + checkpoint, club, kept);
+        }
+        for (int number = 0; number < 2; number++) {
+            Object game = ((Object[]) get(get(club, "now"), "games"))[number];
+            for (String name : List.of("mover", "winner", "laid", "dealt", "appeals")) {
+                Field field = find(game.getClass(), name);
+                field.setInt(game, field.getInt(game) + 1);
+                each.due("another " + name + " of the game " + number, false, club.isSound());
+                field.setInt(game, field.getInt(game) - 1);
+            }
+        }
+        each.due("all as it was", true, club.isSound());
+    }
+
+    /** All coins are still 400. */
+    private static void moveCoins(Cases.Case each, String what, Dominofs club, Object table)
+            throws ReflectiveOperationException {
+        int[] purses = (int[]) get(table, "purses");
+        each.due("sound, " + what, true, club.isSound());
+        purses[0]++;
+        purses[3]--;
+        each.due("a coin is in another purse, " + what, false, club.isSound());
+        purses[0]--;
+        find(table.getClass(), "clubCoins").setInt(table, 1);
+        each.due("a coin of a purse is the club's, " + what, false, club.isSound());
+        find(table.getClass(), "clubCoins").setInt(table, 0);
+        purses[3]++;
+    }
+
+    private void tiles() throws ReflectiveOperationException {
+        Cases.Case each = cases.promise(36, "tiles of each game are each in one place");
+        each.due("in the line and in a hand", false, soundBehind("TileLaid", 1, 0, true));
+        each.due("in the line and in a hand, though it fits", false, soundBehind("TileLaid", 1, 2, true));
+        each.due("twice in the line", false, soundBehind("TileLaid", 1, 3, true));
+        each.due("in the line and in the stock", false, soundBehind("TileLaid", 1, 4, true));
+        each.due("an entry as all are", true, soundBehind("CoinsBet", 1, 0, 0, 1));
+    }
+
+    private void coins() throws ReflectiveOperationException {
+        Cases.Case each = cases.promise(36, "purses, the club and pools of games that are not over make 400");
+        each.due("a pool is paid twice", false, soundBehind("CoinsBet", 0, 0, 0, 1));
+    }
+
+    /** Tells whether a club is sound behind an entry that no call would make; each replay does it, too. */
+    private static boolean soundBehind(String kind, Object... arguments) throws ReflectiveOperationException {
+        Dominofs club = club();
+        Class<?> type = Class.forName("Dominofs$" + kind);
+        Constructor<?> constructor = type.getDeclaredConstructors()[0];
+        constructor.setAccessible(true);
+        for (Method method : Dominofs.class.getDeclaredMethods()) {
+            if (method.getName().equals("enter")) {
+                method.setAccessible(true);
+                method.invoke(club, constructor.newInstance(arguments));
+            }
+        }
+        return club.isSound();
+    }
+
+    private static Object get(Object target, String name) throws ReflectiveOperationException {
+        return find(target.getClass(), name).get(target);
+    }
+
+    private static Field find(Class<?> type, String name) throws ReflectiveOperationException {
+        Field field = type.getDeclaredField(name);
+        field.setAccessible(true);
+        return field;
+    }
+}
