@@ -46,7 +46,8 @@ final class BetsTest {
         cases.promise(17, "better: the better, 0 to 3").holds("the least and the greatest", Plays.DRAWN_GAME + """
             bet(0, 0, 0, 1) = 1; bet(3, 0, 0, 2) = 3; purse(0) = 99; purse(1) = 100; purse(2) = 100; purse(3) = 98;
             """);
-        Cases.Case each = cases.promise(17, "Throws IndexOutOfBoundsException if there is no such better, game or player");
+        Cases.Case each = cases.promise(17,
+            "Throws IndexOutOfBoundsException if there is no such better, game or player");
         each.changesNothing("a better, one beyond on either side, and far beyond", Plays.DRAWN_GAME, """
             bet(-1, 0, 0, 1) = throws IndexOutOfBoundsException; bet(4, 0, 0, 1) = throws IndexOutOfBoundsException;
             bet(-2147483648, 0, 0, 1) = throws IndexOutOfBoundsException;
@@ -154,8 +155,9 @@ final class BetsTest {
         each.changesNothing("10", TEN, """
             bet(0, 0, 0, 1) = throws IllegalStateException; bet(3, 0, 1, 88) = throws IllegalStateException;
             """);
-        each.holds("bets that crashes lost do not count", Plays.DRAWN_GAME + Plays.times("bet(0, 0, 0, 1) = 1; crash() = 2;"
-            + "game(0, 10) = 0;", 11) + Plays.TEN_BETS + "bet(0, 0, 0, 1) = throws IllegalStateException; entries() = 11;"
+        each.holds("bets that crashes lost do not count", Plays.DRAWN_GAME
+            + Plays.times("bet(0, 0, 0, 1) = 1; crash() = 2; game(0, 10) = 0;", 11) + Plays.TEN_BETS
+            + "bet(0, 0, 0, 1) = throws IllegalStateException; entries() = 11;"
             + "game(0, 10) = 1; bet(0, 1, 0, 1) = 1;");
         each.holds("of another game", Plays.DRAWN_GAME + "game(0, 10) = 1;" + Plays.TEN_BETS + """
             bet(0, 1, 0, 1) = 1; bet(0, 0, 0, 1) = throws IllegalStateException;
@@ -190,7 +192,8 @@ final class BetsTest {
                 """)
             .holds("all that there is", Plays.ONE_TILE_HOUSE + """
                 game(0, 0) = 0; bet(0, 0, 0, 1) = 1; bet(1, 0, 1, 100) = 101; bet(2, 0, 1, 100) = 201;
-                bet(3, 0, 1, 100) = 301; lay(0, 2, true) = true; purse(0) = 400; purse(1) = 0; purse(2) = 0; purse(3) = 0;
+                bet(3, 0, 1, 100) = 301; lay(0, 2, true) = true; purse(0) = 400; purse(1) = 0; purse(2) = 0;
+                purse(3) = 0;
                 game(0, 0) = 1; bet(0, 1, 1, 400) = 400; lay(1, 2, true) = true; purse(0) = 0; club() = 400;
                 """);
     }
@@ -241,6 +244,12 @@ final class BetsTest {
             .holds("a crash lost the end, and other bets came", Plays.DRAWN_GAME + Plays.DRAWN_BUT_LAST + """
                 flush() = 8; bet(0, 0, 0, 5) = 5; pass(0) = true; paid(0, 0) = 5; crash() = 2; bet(1, 0, 0, 6) = 6;
                 paid(0, 0) = 0; pass(0) = true; paid(0, 0) = 6; purse(0) = 100; purse(1) = 100;
+                """)
+            .holds("in a place where a game with more bets was that was lost", Plays.ONE_TILE_HOUSE + """
+                game(0, 0) = 0; bet(1, 0, 0, 5) = 5; bet(2, 0, 0, 6) = 11; bet(0, 0, 0, 7) = 18; bet(3, 0, 1, 8) = 26;
+                lay(0, 2, true) = true; paid(0, 2) = 10; crash() = 6; game(0, 0) = 0; bet(1, 0, 0, 5) = 5;
+                lay(0, 2, true) = true; paid(0, 0) = 5; paid(0, 1) = throws IndexOutOfBoundsException; purse(0) = 100;
+                purse(1) = 100; purse(2) = 100; purse(3) = 100; club() = 0;
                 """)
             .holds("in a place where a game was that was lost", Plays.ONE_TILE_HOUSE + """
                 game(0, 0) = 0; bet(0, 0, 0, 5) = 5; lay(0, 2, true) = true; paid(0, 0) = 5; crash() = 3;

@@ -2,10 +2,10 @@ import java.math.BigInteger;
 
 /** The boundary cases of the promises 33 to 36: checksum, playedShare, meanPurse, isSound. */
 final class FiguresTest {
-    private static final String CHECKSUM = "Returns 7 at first, then for each game 31 times itself plus the tiles in the"
-        + " line, then for each player 31 times itself plus the hand, modulo 1000003; then 31 times itself plus the"
-        + " winner, -2 if it is not over; then for each purse 31 times itself plus it, and 31 times itself plus what the"
-        + " club has.";
+    private static final String CHECKSUM = "Returns 7 at first, then for each game 31 times itself plus the tiles in"
+        + " the line, then for each player 31 times itself plus the hand, modulo 1000003; then 31 times itself plus the"
+        + " winner, -2 if it is not over; then for each purse 31 times itself plus it, and 31 times itself plus what"
+        + " the club has.";
     private static final String FOUR_PLAYERS = "house(6, 4, 7, false, 'l') = 0;";
     private static final String QUICK_BETS = Plays.QUICK_HOUSE + Plays.quickGame(0)
         + "bet(0, 0, 0, 30) = 30; bet(1, 0, 1, 100) = 130;" + Plays.quickBlock(0);
@@ -111,7 +111,8 @@ final class FiguresTest {
             game(0, 0) = 0; playedShare() = 0.0; lay(0, 2, true) = true; playedShare() = 1.0;
             """);
         each.holds("shares that are cut", Plays.ONE_TILE_HOUSE + Plays.wonGame(0) + """
-            game(0, 0) = 1; game(0, 0) = 2; playedShare() = 0.33333334; lay(1, 2, true) = true; playedShare() = 0.6666667;
+            game(0, 0) = 1; game(0, 0) = 2; playedShare() = 0.33333334; lay(1, 2, true) = true;
+            playedShare() = 0.6666667;
             game(0, 0) = 3; playedShare() = 0.5; game(0, 0) = 4; playedShare() = 0.4; game(0, 0) = 5;
             playedShare() = 0.33333334; lay(2, 2, true) = true; playedShare() = 0.5; lay(3, 2, true) = true;
             playedShare() = 0.6666667; lay(4, 2, true) = true; playedShare() = 0.8333333; lay(5, 2, true) = true;
@@ -122,7 +123,8 @@ final class FiguresTest {
             playedShare() = 0.0; lay(5, 2, true) = true; playedShare() = 0.16666667;
             """);
         each.holds("blocked games are over, too", Plays.QUICK_HOUSE + Plays.blockedGame(0)
-            + "playedShare() = 1.0; appeal(0, 'n') = -1; playedShare() = 1.0;" + Plays.quickGame(1) + "playedShare() = 0.5;");
+            + "playedShare() = 1.0; appeal(0, 'n') = -1; playedShare() = 1.0;" + Plays.quickGame(1)
+            + "playedShare() = 0.5;");
     }
 
     private void noShare() {
@@ -146,7 +148,8 @@ final class FiguresTest {
                 meanPurse() = 0.0;
                 """)
             .holds("below 0", Plays.owing() + """
-                bet(1, 1, 1, 199) = 399; bet(2, 1, 1, 100) = 499; bet(3, 1, 1, 100) = 599; purse(0) = -200; purse(1) = 1;
+                bet(1, 1, 1, 199) = 399; bet(2, 1, 1, 100) = 499; bet(3, 1, 1, 100) = 599; purse(0) = -200;
+                purse(1) = 1;
                 meanPurse() = -49.75; appeal(0, 'n') = -1; purse(1) = -199; meanPurse() = -99.75;
                 """);
     }
@@ -155,7 +158,7 @@ final class FiguresTest {
         Cases.Case each = cases.promise(36, "Returns true if so.");
         each.changesNothing("of nothing", "", "isSound() = true;");
         each.changesNothing("of houses alone", Plays.QUICK_HOUSE, "isSound() = true;");
-        each.changesNothing("of all games, won and blocked, with open bets and five checkpoints", Plays.QUICK_HOUSE + """
+        each.changesNothing("of six games, with open bets and five checkpoints", Plays.QUICK_HOUSE + """
             house(2, 2, 1, true, 'n') = 1; checkpoint() = 0; game(1, 0) = 0; checkpoint() = 1; lay(0, 2, true) = true;
             checkpoint() = 2;
             """ + Plays.blockedGame(1) + "checkpoint() = 3; checkpoint() = 4;" + Plays.blockedGame(2) + """

@@ -106,7 +106,8 @@ final class HousesTest {
                 """);
         cases.promise(2, "areDraws: whether there are draws").holds("there are, and there are none", """
             house(2, 2, 2, true, 'l') = 0; house(2, 2, 2, false, 'l') = 1; game(0, 22) = 0; game(1, 22) = 1;
-            lay(0, 3, true) = false; lay(1, 3, true) = false; draw(0) = 1; draw(1) = throws UnsupportedOperationException;
+            lay(0, 3, true) = false; lay(1, 3, true) = false; draw(0) = 1;
+            draw(1) = throws UnsupportedOperationException;
             pass(1) = false;
             """);
     }
@@ -177,12 +178,13 @@ final class HousesTest {
     }
 
     private void houseOutlivesCrash() {
-        cases.promise(2, "Adds a house; houses are no entries of the journal.").holds("no entry, and a crash keeps them",
+        Cases.Case each = cases.promise(2, "Adds a house; houses are no entries of the journal.");
+        each.holds("no entry, and a crash keeps them",
             FOUR_HOUSES + """
             entries() = 0; loose() = 0; flush() = 0; crash() = 0; house(2, 2, 1, true, 'l') = throws
             IllegalStateException; game(2, 0) = 0; crash() = 1; game(3, 0) = 0; ruling(0) = l; entries() = 1;
             """);
-        cases.promise(2, "Adds a house; houses are no entries of the journal.").holds("400 entries are no bar",
+        each.holds("400 entries are no bar",
             FullJournal.of(400).replace("house(2, 2, 2, true, 'l') = 3;", "") + """
             house(1, 2, 2, true, 'l') = throws IllegalArgumentException; house(2, 2, 2, true, 'l') = 3;
             house(2, 2, 2, true, 'l') = throws IllegalStateException; entries() = 400;

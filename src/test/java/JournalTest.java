@@ -86,7 +86,8 @@ final class JournalTest {
             each.changesNothing("of three, one beyond on either side, and far beyond", THREE_ENTRIES, Plays.put(row, -1)
                 + Plays.put(row, 3) + Plays.put(row, 4) + Plays.put(row, Integer.MIN_VALUE)
                 + Plays.put(row, Integer.MAX_VALUE));
-            each.changesNothing("a crash lost it", THREE_ENTRIES + "crash() = 2;", Plays.put(row, 1) + Plays.put(row, 2));
+            each.changesNothing("a crash lost it", THREE_ENTRIES + "crash() = 2;", Plays.put(row, 1)
+                + Plays.put(row, 2));
             each.changesNothing("of 400, one beyond on either side", FullJournal.of(400), Plays.put(row, 400)
                 + Plays.put(row, -1));
         }
@@ -95,7 +96,8 @@ final class JournalTest {
     private void flushes() {
         cases.promise(28, "Returns how many entries were loose.")
             .holds("none", "flush() = 0;" + Plays.DRAWN_GAME + "flush() = 1; flush() = 0; crash() = 0; entries() = 1;")
-            .holds("all 400", FullJournal.of(400) + "flush() = 400; flush() = 0; loose() = 0; crash() = 0; entries() = 400;")
+            .holds("all 400", FullJournal.of(400)
+            + "flush() = 400; flush() = 0; loose() = 0; crash() = 0; entries() = 400;")
             .changesNothing("none", "", "flush() = 0;")
             .changesNothing("none any more", Plays.DRAWN_GAME + "flush() = 1;", "flush() = 0;");
     }
@@ -106,12 +108,14 @@ final class JournalTest {
                 crash() = 1; entries() = 0; loose() = 0; playedShare() = throws NoSuchElementException; game(0, 10) = 0;
                 """)
             .holds("the last one alone", THREE_ENTRIES + """
-                flush() = 2; lay(0, 2, true) = false; crash() = 1; entries() = 3; entry(2) = t; line(0) = 5; mover(0) = 1;
+                flush() = 2; lay(0, 2, true) = false; crash() = 1; entries() = 3; entry(2) = t; line(0) = 5;
+                mover(0) = 1;
                 hand(0, 1) = 36; pool(0) = 5; purse(0) = 95;
                 """)
             .holds("the end of a game, what was paid, and appeals", Plays.QUICK_HOUSE + Plays.quickGame(0)
                 + "bet(0, 0, 1, 5) = 5; bet(1, 0, 0, 6) = 11; flush() = 3;" + Plays.quickBlock(0) + """
-                purse(0) = 106; appeal(0, 's') = 0; purse(1) = 105; crash() = 4; isOver(0) = false; isBlocked(0) = false;
+                purse(0) = 106; appeal(0, 's') = 0; purse(1) = 105; crash() = 4; isOver(0) = false;
+                isBlocked(0) = false;
                 winner(0) = throws NoSuchElementException; ruling(0) = l; purse(0) = 95; purse(1) = 94; paid(0, 0) = 0;
                 paid(0, 1) = 0; pool(0) = 11; line(0) = 0; hand(0, 0) = 40; mover(0) = 0;
                 """ + Plays.quickBlock(0) + "purse(0) = 106; appeal(0, 's') = 0; appeal(0, 'n') = -1;");
@@ -120,7 +124,8 @@ final class JournalTest {
         each.changesNothing("none any more", Plays.DRAWN_GAME + Plays.DRAWN_PLAY + "flush() = 9;", "crash() = 0;");
         each.changesNothing("none, behind a checkpoint", Plays.DRAWN_GAME + Plays.DRAWN_PLAY + "checkpoint() = 0;",
             "crash() = 0;");
-        each.holds("one behind the other", Plays.DRAWN_GAME + "crash() = 1; crash() = 0; game(0, 10) = 0; crash() = 1;");
+        each.holds("one behind the other", Plays.DRAWN_GAME
+            + "crash() = 1; crash() = 0; game(0, 10) = 0; crash() = 1;");
         each.holds("all 400, then some anew", FullJournal.of(400) + """
             crash() = 400; crash() = 0; game(3, 10) = 0; lay(0, 0, true) = false; entries() = 2; crash() = 2;
             """);
@@ -139,20 +144,24 @@ final class JournalTest {
     }
 
     private void checkpointsRefused() {
-        Cases.Case each = cases.promise(30, "Throws UnsupportedOperationException if there are bets on a game that is not"
-            + " over");
+        Cases.Case each = cases.promise(30,
+            "Throws UnsupportedOperationException if there are bets on a game that is not over");
         String row = "checkpoint() = throws UnsupportedOperationException;";
         each.changesNothing("one bet of one coin", Plays.DRAWN_GAME + "bet(0, 0, 0, 1) = 1;", row);
         each.changesNothing("10 bets", Plays.DRAWN_GAME + Plays.TEN_BETS, row);
-        each.changesNothing("just before the end", Plays.DRAWN_GAME + "bet(0, 0, 0, 1) = 1;" + Plays.DRAWN_BUT_LAST, row);
+        each.changesNothing("just before the end", Plays.DRAWN_GAME + "bet(0, 0, 0, 1) = 1;" + Plays.DRAWN_BUT_LAST,
+            row);
         each.changesNothing("a bet that is flushed", Plays.DRAWN_GAME + "bet(0, 0, 0, 1) = 1; flush() = 2;", row);
-        each.changesNothing("on the first of two games", Plays.DRAWN_GAME + "game(0, 10) = 1; bet(0, 0, 0, 1) = 1;", row);
-        each.changesNothing("on the last of two games", Plays.DRAWN_GAME + "game(0, 10) = 1; bet(0, 1, 0, 1) = 1;", row);
+        each.changesNothing("on the first of two games", Plays.DRAWN_GAME + "game(0, 10) = 1; bet(0, 0, 0, 1) = 1;",
+            row);
+        each.changesNothing("on the last of two games", Plays.DRAWN_GAME + "game(0, 10) = 1; bet(0, 1, 0, 1) = 1;",
+            row);
         each.changesNothing("one game with bets is over, another is not", Plays.QUICK_HOUSE + Plays.quickGame(0)
             + "bet(0, 0, 0, 1) = 1;" + Plays.quickBlock(0) + "game(0, 22) = 1; bet(0, 1, 0, 1) = 1;", row);
         each.holds("no game, games without bets, games that are over", """
             house(2, 2, 2, false, 'l') = 0; checkpoint() = 0; game(0, 22) = 0; checkpoint() = 1; bet(0, 0, 0, 1) = 1;
-            checkpoint() = throws UnsupportedOperationException; lay(0, 3, true) = false; pass(0) = false; pass(0) = true;
+            checkpoint() = throws UnsupportedOperationException; lay(0, 3, true) = false; pass(0) = false;
+            pass(0) = true;
             checkpoint() = 2; game(0, 22) = 1; checkpoint() = 3;
             """);
         each.changesNothing("listed first, when there are 5", FIVE_CHECKPOINTS + Plays.DRAWN_GAME
@@ -216,7 +225,8 @@ final class JournalTest {
         each.changesNothing("no checkpoint", Plays.DRAWN_GAME, """
             replay(0) = throws IndexOutOfBoundsException; replay(-2) = throws IndexOutOfBoundsException;
             """);
-        each.changesNothing("of five, one beyond on either side, and far beyond", FIVE_CHECKPOINTS + Plays.DRAWN_GAME, """
+        String five = FIVE_CHECKPOINTS + Plays.DRAWN_GAME;
+        each.changesNothing("of five, one beyond on either side, and far beyond", five, """
             replay(5) = throws IndexOutOfBoundsException; replay(-2) = throws IndexOutOfBoundsException;
             replay(-2147483648) = throws IndexOutOfBoundsException;
             replay(2147483647) = throws IndexOutOfBoundsException;
@@ -226,7 +236,21 @@ final class JournalTest {
     private void replaysOfLosses() {
         Cases.Case each = cases.promise(32, "Returns the checksum of what comes of it.");
         each.changesNothing("no entry", "checkpoint() = 0;", "replay(-1) = 295834457; replay(0) = 295834457;");
-        each.changesNothing("a crash lost all that came behind", "checkpoint() = 0;" + Plays.DRAWN_GAME + "crash() = 1;",
+        each.changesNothing("a game of four players that went on behind it", """
+            house(6, 4, 3, false, 'l') = 0; game(0, 268) = 0; lay(0, 0, true) = false; pass(0) = false;
+            checkpoint() = 0; pass(0) = false; pass(0) = false; checkpoint() = 1; lay(0, 1, true) = false;
+            """, "replay(0) = 3806893517890685712; replay(1) = 3806893517890685712; replay(-1) = 3806893517890685712;");
+        each.changesNothing("drawings and a block behind it, ruled by who laid before it", """
+            house(2, 2, 2, true, 's') = 0; game(0, 10) = 0; checkpoint() = 0; lay(0, 0, true) = false;
+            lay(0, 2, true) = false; checkpoint() = 1; draw(0) = 4; lay(0, 4, true) = false; draw(0) = 1;
+            checkpoint() = 2; lay(0, 1, true) = false; checkpoint() = 3; pass(0) = false; checkpoint() = 4;
+            pass(0) = true; winner(0) = 1;
+            """, """
+            replay(0) = 188737544364692; replay(1) = 188737544364692; replay(2) = 188737544364692;
+            replay(3) = 188737544364692; replay(4) = 188737544364692; replay(-1) = 188737544364692;
+            """);
+        each.changesNothing("a crash lost all that came behind", "checkpoint() = 0;" + Plays.DRAWN_GAME
+            + "crash() = 1;",
             "replay(-1) = 295834457; replay(0) = 295834457;");
         each.changesNothing("a game that was over at the checkpoint, and one behind it", Plays.QUICK_HOUSE
             + Plays.blockedGame(0) + "checkpoint() = 0;" + Plays.quickGame(1) + "bet(0, 1, 0, 7) = 7;"

@@ -63,7 +63,8 @@ final class LooksTest {
         each.changesNothing("of four players, one beyond on either side", """
             house(6, 4, 7, false, 'l') = 0; game(0, 0) = 0;
             """, "hand(0, 4) = throws IndexOutOfBoundsException; hand(0, -1) = throws IndexOutOfBoundsException;");
-        each.changesNothing("neither game nor player", Plays.DRAWN_GAME, "hand(1, 2) = throws IndexOutOfBoundsException;");
+        each.changesNothing("neither game nor player", Plays.DRAWN_GAME,
+            "hand(1, 2) = throws IndexOutOfBoundsException;");
         cases.promise(8, "Returns the sum of 2 to the power of each number.")
             .holds("no tile", WON + "hand(0, 0) = 0; hand(0, 1) = 16;")
             .holds("the least tile alone, and the greatest one of the greatest set", """
@@ -152,7 +153,8 @@ final class LooksTest {
     }
 
     private void turned() {
-        cases.promise(12, "isTurned: whether the line is looked at from the other side: the last tile first, each turned,"
+        cases.promise(12,
+            "isTurned: whether the line is looked at from the other side: the last tile first, each turned,"
             + " the brackets as they are")
             .holds("one tile", """
                 house(2, 2, 3, false, 'l') = 0; game(0, 1) = 0; lay(0, 4, true) = false; sign(0, 0, true) = [;

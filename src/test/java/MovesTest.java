@@ -100,7 +100,8 @@ final class MovesTest {
             """);
         cases.promise(4, "Throws IndexOutOfBoundsException if there is no such game")
             .changesNothing("listed first, when no set has the tile", Plays.DRAWN_GAME, """
-                lay(1, -1, true) = throws IndexOutOfBoundsException; lay(1, 28, true) = throws IndexOutOfBoundsException;
+                lay(1, -1, true) = throws IndexOutOfBoundsException;
+                lay(1, 28, true) = throws IndexOutOfBoundsException;
                 lay(-1, -1, true) = throws IndexOutOfBoundsException;
                 """)
             .changesNothing("listed first, when there are 400 entries", FULL_TO_LAY, """
@@ -258,7 +259,8 @@ final class MovesTest {
             game(2, 22) = 5; bet(0, 5, 1, 7) = 7; lay(5, 3, true) = false; pass(5) = false; entries() = 399;
             pass(5) = true; entries() = 400; winner(5) = 1; paid(5, 0) = 7;
             """);
-        each.changesNothing("400 entries; the mover could pass", FULL_TO_PASS, "pass(5) = throws IllegalStateException;");
+        each.changesNothing("400 entries; the mover could pass", FULL_TO_PASS,
+            "pass(5) = throws IllegalStateException;");
         each.changesNothing("400 entries; a tile fits", FULL_TO_LAY, "pass(5) = throws IllegalStateException;");
         each.changesNothing("400 entries; one can be drawn", FULL_TO_DRAW, "pass(5) = throws IllegalStateException;");
     }

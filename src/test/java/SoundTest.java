@@ -30,32 +30,49 @@ final class SoundTest {
         }
     }
 
-    private static Dominofs club() {
+    private static Dominofs club(String rows) {
         Caller caller = new Caller();
-        for (Rows.Row row : Rows.of(ENTRIES)) {
+        for (Rows.Row row : Rows.of(rows)) {
             caller.ask(row.call());
         }
         return caller.club;
     }
 
     private void replays() throws ReflectiveOperationException {
-        Cases.Case each = cases.promise(36, "Tells whether replays from nothing and from each checkpoint come to what is");
-        Dominofs club = club();
+        Cases.Case each = cases.promise(36,
+            "Tells whether replays from nothing and from each checkpoint come to what is");
+        Dominofs club = club(ENTRIES);
         moveCoins(each, "what is", club, get(club, "now"));
         for (int checkpoint = 0; checkpoint < 5; checkpoint++) {
             Object kept = ((List<?>) get(club, "checkpoints")).get(checkpoint);
             moveCoins(each, "the checkpoint " + checkpoint, club, kept);
         }
         for (int number = 0; number < 2; number++) {
-            Object game = ((Object[]) get(get(club, "now"), "games"))[number];
-            for (String name : List.of("mover", "winner", "laid", "dealt", "appeals")) {
-                Field field = find(game.getClass(), name);
-                field.setInt(game, field.getInt(game) + 1);
-                each.due("another " + name + " of the game " + number, false, club.isSound());
-                field.setInt(game, field.getInt(game) - 1);
-            }
+            breakGame(each, club, ((Object[]) get(get(club, "now"), "games"))[number], " of the game " + number);
         }
         each.due("all as it was", true, club.isSound());
+    }
+
+    private static void breakGame(Cases.Case each, Dominofs club, Object game, String which)
+            throws ReflectiveOperationException {
+        for (String name : List.of("mover", "winner", "laid", "dealt", "appeals")) {
+            Field field = find(game.getClass(), name);
+            field.setInt(game, field.getInt(game) + 1);
+            each.due("another " + name + which, false, club.isSound());
+            field.setInt(game, field.getInt(game) - 1);
+        }
+        exchange(each, "two hands" + which, club, (int[]) get(game, "hands"), 0);
+        exchange(each, "two tiles of the stock" + which, club, (int[]) get(game, "order"), 4);
+    }
+
+    /** Exchanges the figures at the place and behind it for once. */
+    private static void exchange(Cases.Case each, String what, Dominofs club, int[] row, int place) {
+        int kept = row[place];
+        row[place] = row[place + 1];
+        row[place + 1] = kept;
+        each.due("exchanged " + what, false, club.isSound());
+        row[place + 1] = row[place];
+        row[place] = kept;
     }
 
     /** All coins are still 400. */
@@ -75,21 +92,25 @@ final class SoundTest {
 
     private void tiles() throws ReflectiveOperationException {
         Cases.Case each = cases.promise(36, "tiles of each game are each in one place");
-        each.due("in the line and in a hand", false, soundBehind("TileLaid", 1, 0, true));
-        each.due("in the line and in a hand, though it fits", false, soundBehind("TileLaid", 1, 2, true));
-        each.due("twice in the line", false, soundBehind("TileLaid", 1, 3, true));
-        each.due("in the line and in the stock", false, soundBehind("TileLaid", 1, 4, true));
-        each.due("an entry as all are", true, soundBehind("CoinsBet", 1, 0, 0, 1));
+        each.due("in the line and in a hand", false, soundBehind(ENTRIES, "TileLaid", 1, 0, true));
+        each.due("in the line and in a hand, though it fits", false, soundBehind(ENTRIES, "TileLaid", 1, 2, true));
+        each.due("twice in the line", false, soundBehind(ENTRIES, "TileLaid", 1, 3, true));
+        each.due("in the line and in the stock", false, soundBehind(ENTRIES, "TileLaid", 1, 4, true));
+        String twoGames = Plays.QUICK_HOUSE + Plays.quickGame(0) + Plays.quickGame(1);
+        each.due("in the line and in a hand, of the first game", false, soundBehind(twoGames, "TileLaid", 0, 0, true));
+        each.due("in the line alone, of the first game", true, soundBehind(twoGames, "TileLaid", 0, 3, true));
+        each.due("an entry as all are", true, soundBehind(ENTRIES, "CoinsBet", 1, 0, 0, 1));
     }
 
     private void coins() throws ReflectiveOperationException {
         Cases.Case each = cases.promise(36, "purses, the club and pools of games that are not over make 400");
-        each.due("a pool is paid twice", false, soundBehind("CoinsBet", 0, 0, 0, 1));
+        each.due("a pool is paid twice", false, soundBehind(ENTRIES, "CoinsBet", 0, 0, 0, 1));
     }
 
     /** Tells whether a club is sound behind an entry that no call would make; each replay does it, too. */
-    private static boolean soundBehind(String kind, Object... arguments) throws ReflectiveOperationException {
-        Dominofs club = club();
+    private static boolean soundBehind(String rows, String kind,
+        Object... arguments) throws ReflectiveOperationException {
+        Dominofs club = club(rows);
         Class<?> type = Class.forName("Dominofs$" + kind);
         Constructor<?> constructor = type.getDeclaredConstructors()[0];
         constructor.setAccessible(true);

@@ -192,7 +192,8 @@ final class TermsTest {
         Cases.Case first = cases.terms("The first tile makes the line, its lower number to the left; each next one is"
             + " laid at its left or its right end, with a number that is alike there, turned as it must be.");
         first.holds("the first tile, at the left", """
-            house(2, 2, 3, false, 'l') = 0; game(0, 1) = 0; lay(0, 4, true) = false; end(0, true) = 1; end(0, false) = 2;
+            house(2, 2, 3, false, 'l') = 0; game(0, 1) = 0; lay(0, 4, true) = false; end(0, true) = 1;
+            end(0, false) = 2;
             """);
         first.holds("the first tile, at the right", """
             house(2, 2, 3, false, 'l') = 0; game(0, 1) = 0; lay(0, 4, false) = false; end(0, true) = 1;
@@ -200,22 +201,26 @@ final class TermsTest {
             """);
         first.holds("at the left, the higher number alike", """
             house(2, 2, 3, false, 'l') = 0; game(0, 1) = 0; lay(0, 4, true) = false; lay(0, 1, true) = false;
-            sign(0, 1, false) = 0; sign(0, 3, false) = 1; sign(0, 6, false) = 1; sign(0, 8, false) = 2; end(0, true) = 0;
+            sign(0, 1, false) = 0; sign(0, 3, false) = 1; sign(0, 6, false) = 1; sign(0, 8, false) = 2;
+            end(0, true) = 0;
             end(0, false) = 2;
             """);
         first.holds("at the left, the lower number alike", """
             house(2, 2, 3, false, 'l') = 0; game(0, 1) = 0; lay(0, 0, true) = false; lay(0, 1, true) = false;
-            sign(0, 1, false) = 1; sign(0, 3, false) = 0; sign(0, 6, false) = 0; sign(0, 8, false) = 0; end(0, true) = 1;
+            sign(0, 1, false) = 1; sign(0, 3, false) = 0; sign(0, 6, false) = 0; sign(0, 8, false) = 0;
+            end(0, true) = 1;
             end(0, false) = 0;
             """);
         first.holds("at the right, the higher number alike", """
             house(2, 2, 3, false, 'l') = 0; game(0, 1) = 0; lay(0, 4, true) = false; lay(0, 2, false) = false;
-            sign(0, 1, false) = 1; sign(0, 3, false) = 2; sign(0, 6, false) = 2; sign(0, 8, false) = 0; end(0, true) = 1;
+            sign(0, 1, false) = 1; sign(0, 3, false) = 2; sign(0, 6, false) = 2; sign(0, 8, false) = 0;
+            end(0, true) = 1;
             end(0, false) = 0;
             """);
         first.holds("at the right, the lower number alike", """
             house(2, 2, 3, false, 'l') = 0; game(0, 1) = 0; lay(0, 0, true) = false; lay(0, 1, false) = false;
-            sign(0, 1, false) = 0; sign(0, 3, false) = 0; sign(0, 6, false) = 0; sign(0, 8, false) = 1; end(0, true) = 0;
+            sign(0, 1, false) = 0; sign(0, 3, false) = 0; sign(0, 6, false) = 0; sign(0, 8, false) = 1;
+            end(0, true) = 0;
             end(0, false) = 1;
             """);
         first.holds("both numbers alike, at the left and at the right", """
@@ -269,8 +274,8 @@ final class TermsTest {
     }
 
     private void ends() {
-        Cases.Case each = cases.terms("A game is over when a player has no tile, who has won, or when all players passed"
-            + " one behind the other: it is blocked, and ruled.");
+        Cases.Case each = cases.terms("A game is over when a player has no tile, who has won, or when all players"
+            + " passed one behind the other: it is blocked, and ruled.");
         each.holds("no tile, by the first tile laid", Plays.ONE_TILE_HOUSE + Plays.wonGame(0)
             + "isOver(0) = true; isBlocked(0) = false; winner(0) = 0; hand(0, 0) = 0; hand(0, 1) = 16;");
         each.holds("one tile is left", """
@@ -298,7 +303,8 @@ final class TermsTest {
             isOver(0) = true; isBlocked(0) = true;
             """);
         cases.terms("At most 6 games are numbered from 0, each of a house.").holds("six, and one more", """
-            house(2, 2, 1, true, 'l') = 0; house(2, 2, 1, true, 'n') = 1; game(0, 0) = 0; game(1, 0) = 1; game(0, 0) = 2;
+            house(2, 2, 1, true, 'l') = 0; house(2, 2, 1, true, 'n') = 1; game(0, 0) = 0; game(1, 0) = 1;
+            game(0, 0) = 2;
             game(1, 0) = 3; game(0, 0) = 4; game(1, 0) = 5; game(0, 0) = throws IllegalStateException; ruling(0) = l;
             ruling(5) = n; ruling(6) = throws IndexOutOfBoundsException;
             """);
@@ -346,7 +352,8 @@ final class TermsTest {
         each.holds("nothing is left", won("bet(0, %, 0, 1) = 1; bet(1, %, 0, 3) = 4; bet(2, %, 1, 8) = 12;") + """
             paid(0, 0) = 3; paid(0, 1) = 9; paid(0, 2) = 0; club() = 0; purse(0) = 102; purse(1) = 106; purse(2) = 92;
             """);
-        each.holds("one coin gets it all", won("bet(0, %, 1, 100) = 100; bet(1, %, 1, 100) = 200; bet(2, %, 0, 1) = 201;")
+        each.holds("one coin gets it all",
+            won("bet(0, %, 1, 100) = 100; bet(1, %, 1, 100) = 200; bet(2, %, 0, 1) = 201;")
             + "paid(0, 2) = 201; purse(2) = 300; club() = 0;");
         each.holds("all bet on who won", won("bet(0, %, 0, 100) = 100; bet(1, %, 0, 7) = 107;")
             + "paid(0, 0) = 100; paid(0, 1) = 7; purse(0) = 100; purse(1) = 100; club() = 0;");
@@ -371,8 +378,8 @@ final class TermsTest {
     }
 
     private void appeals() {
-        Cases.Case each = cases.terms("A game that is blocked can be ruled another way, by one of the three rulings that"
-            + " is not the one in force, at most 2 times, and not behind a checkpoint made since its end.");
+        Cases.Case each = cases.terms("A game that is blocked can be ruled another way, by one of the three rulings"
+            + " that is not the one in force, at most 2 times, and not behind a checkpoint made since its end.");
         String blocked = Plays.QUICK_HOUSE + Plays.blockedGame(0);
         each.holds("the two that are not in force", blocked + """
             appeal(0, 'l') = throws UnsupportedOperationException; appeal(0, 's') = 0; winner(0) = 0;
@@ -380,15 +387,18 @@ final class TermsTest {
         each.holds("the other one", blocked + "appeal(0, 'n') = -1; winner(0) = -1;");
         each.holds("2 times, and once more", blocked + """
             appeal(0, 's') = 0; appeal(0, 's') = throws UnsupportedOperationException; appeal(0, 'l') = 1;
-            appeal(0, 'n') = throws UnsupportedOperationException; appeal(0, 's') = throws UnsupportedOperationException;
+            appeal(0, 'n') = throws UnsupportedOperationException;
+            appeal(0, 's') = throws UnsupportedOperationException;
             ruling(0) = l; winner(0) = 1; entries() = 6;
             """);
         each.holds("2 times for each game", blocked + Plays.blockedGame(1) + """
             appeal(0, 's') = 0; appeal(1, 's') = 0; appeal(0, 'n') = -1; appeal(1, 'n') = -1;
-            appeal(0, 's') = throws UnsupportedOperationException; appeal(1, 's') = throws UnsupportedOperationException;
+            appeal(0, 's') = throws UnsupportedOperationException;
+            appeal(1, 's') = throws UnsupportedOperationException;
             """);
         each.holds("it was won, not blocked", Plays.ONE_TILE_HOUSE + Plays.wonGame(0) + """
-            appeal(0, 's') = throws UnsupportedOperationException; appeal(0, 'n') = throws UnsupportedOperationException;
+            appeal(0, 's') = throws UnsupportedOperationException;
+            appeal(0, 'n') = throws UnsupportedOperationException;
             """);
         each.holds("a checkpoint just before the end", Plays.QUICK_HOUSE + Plays.quickGame(0) + """
             lay(0, 3, true) = false; pass(0) = false; checkpoint() = 0; pass(0) = true; appeal(0, 's') = 0;
@@ -407,13 +417,19 @@ final class TermsTest {
         Cases.Case each = cases.terms("What was paid for it is taken back, from the club, too, and paid anew.");
         each.holds("all of it from the club", "house(2, 2, 2, true, 'n') = 0; game(0, 10) = 0;" + Plays.FOUR_BETS
             + Plays.DRAWN_PLAY + """
-            club() = 67; purse(0) = 70; appeal(0, 'l') = 0; club() = 1; paid(0, 0) = 50; paid(0, 2) = 16; purse(0) = 120;
+            club() = 67; purse(0) = 70; appeal(0, 'l') = 0; club() = 1; paid(0, 0) = 50; paid(0, 2) = 16;
+            purse(0) = 120;
             purse(1) = 80; purse(2) = 106; purse(3) = 93; appeal(0, 's') = 1; club() = 1; paid(0, 0) = 0;
             paid(0, 1) = 49; paid(0, 2) = 0; paid(0, 3) = 17; purse(0) = 70; purse(1) = 129; purse(2) = 90;
             purse(3) = 110;
             """);
         each.holds("nobody was paid, as there were no bets", Plays.QUICK_HOUSE + Plays.blockedGame(0)
             + "appeal(0, 's') = 0; club() = 0; meanPurse() = 100.0;");
+        each.holds("in a place where a game with more bets was that was lost", Plays.QUICK_HOUSE + Plays.quickGame(0)
+            + "bet(0, 0, 1, 5) = 5; bet(1, 0, 1, 6) = 11;" + Plays.quickBlock(0) + "paid(0, 1) = 6; crash() = 6;"
+            + Plays.quickGame(0) + "bet(0, 0, 1, 5) = 5;" + Plays.quickBlock(0) + """
+            appeal(0, 's') = 0; club() = 5; appeal(0, 'l') = 1; club() = 0; purse(0) = 100; purse(1) = 100;
+            """);
         each.holds("only what was paid for this game", Plays.QUICK_HOUSE + Plays.quickGame(0)
             + "bet(0, 0, 0, 9) = 9;" + Plays.quickBlock(0) + Plays.quickGame(1) + "bet(1, 1, 0, 5) = 5;"
             + Plays.quickBlock(1) + "club() = 14; appeal(1, 's') = 0; club() = 9; paid(1, 0) = 5; paid(0, 0) = 0;"
@@ -421,8 +437,8 @@ final class TermsTest {
     }
 
     private void entries() {
-        Cases.Case each = cases.terms("Each game begun, tile laid, drawing, passing, bet and appeal is an entry, at most"
-            + " 400, numbered from 0 as they come.");
+        Cases.Case each = cases.terms("Each game begun, tile laid, drawing, passing, bet and appeal is an entry, at"
+            + " most 400, numbered from 0 as they come.");
         each.holds("one of each, and nothing else", "entries() = 0;" + Plays.DRAWN_HOUSE + """
             entries() = 0; game(0, 10) = 0; entries() = 1; bet(0, 0, 0, 5) = 5; entries() = 2;
             """ + Plays.DRAWN_PLAY + """
@@ -450,7 +466,8 @@ final class TermsTest {
 
     private void crashes() {
         Cases.Case each = cases.terms("A crash loses all loose ones: all is then as the others tell, from nothing.");
-        each.holds("none", "crash() = 0;" + Plays.DRAWN_GAME + "flush() = 1; crash() = 0; entries() = 1; stock(0) = 2;");
+        each.holds("none", "crash() = 0;" + Plays.DRAWN_GAME
+            + "flush() = 1; crash() = 0; entries() = 1; stock(0) = 2;");
         each.holds("all", Plays.DRAWN_GAME + Plays.FOUR_BETS + Plays.DRAWN_PLAY + """
             crash() = 13; entries() = 0; loose() = 0; club() = 0; purse(0) = 100; purse(1) = 100; purse(2) = 100;
             purse(3) = 100; isOver(0) = throws IndexOutOfBoundsException; checksum() = 295834457; game(0, 10) = 0;
@@ -467,10 +484,11 @@ final class TermsTest {
     }
 
     private void checkpoints() {
-        Cases.Case each = cases.terms("A checkpoint keeps all games, purses and the club as they are, and flushes first;"
-            + " it is refused as long as there are bets on a game that is not over.");
+        Cases.Case each = cases.terms("A checkpoint keeps all games, purses and the club as they are, and flushes"
+            + " first; it is refused as long as there are bets on a game that is not over.");
         each.holds("of nothing", "checkpoint() = 0; behind(0) = 0; replay(0) = 295834457;");
-        each.holds("it flushes", Plays.DRAWN_GAME + "loose() = 1; checkpoint() = 0; loose() = 0; crash() = 0; stock(0) = 2;");
+        each.holds("it flushes", Plays.DRAWN_GAME
+            + "loose() = 1; checkpoint() = 0; loose() = 0; crash() = 0; stock(0) = 2;");
         each.holds("one bet, until the game is over", Plays.DRAWN_GAME + "bet(3, 0, 1, 1) = 1;" + """
             checkpoint() = throws UnsupportedOperationException; loose() = 2;
             """ + Plays.DRAWN_BUT_LAST + """
@@ -479,6 +497,10 @@ final class TermsTest {
         each.holds("one bet, until a crash loses it", Plays.DRAWN_GAME + """
             flush() = 1; bet(3, 0, 1, 1) = 1; checkpoint() = throws UnsupportedOperationException; crash() = 1;
             checkpoint() = 0;
+            """);
+        each.holds("bets, until a crash loses their game", Plays.DRAWN_GAME + """
+            flush() = 1; game(0, 10) = 1; bet(3, 1, 1, 1) = 1; bet(2, 1, 0, 100) = 101;
+            checkpoint() = throws UnsupportedOperationException; crash() = 3; checkpoint() = 0; behind(0) = 0;
             """);
         each.holds("games without bets that are not over", Plays.DRAWN_GAME + "game(0, 1) = 1; checkpoint() = 0;");
         each.holds("a bet on the last of six games", Plays.ONE_TILE_HOUSE + Plays.wonGame(0) + Plays.wonGame(1)
@@ -522,7 +544,8 @@ final class TermsTest {
 
     private void exceptions() {
         String setup = Plays.QUICK_HOUSE + Plays.quickGame(0) + """
-            bet(0, 0, 0, 5) = 5; bet(1, 0, 1, 5) = 10; lay(0, 0, true) = throws UnsupportedOperationException; flush() = 3;
+            bet(0, 0, 0, 5) = 5; bet(1, 0, 1, 5) = 10; lay(0, 0, true) = throws UnsupportedOperationException;
+            flush() = 3;
             lay(0, 3, true) = false;
             """;
         cases.terms("A method that throws an exception changes nothing, but why tells of refused tiles.")
@@ -540,7 +563,8 @@ final class TermsTest {
                 IndexOutOfBoundsException; entry(4) = throws NoSuchElementException;
                 """)
             .holds("why tells of a tile that does not fit", setup + """
-                why(0) = h; lay(0, 0, true) = throws UnsupportedOperationException; why(0) = f; why(1) = 1; mover(0) = 1;
+                why(0) = h; lay(0, 0, true) = throws UnsupportedOperationException; why(0) = f; why(1) = 1;
+                mover(0) = 1;
                 """);
         cases.terms("If several exceptions apply, the one that is listed first is thrown.").holds("one of each", """
             house(2, 2, 1, true, 'l') = 0; house(2, 2, 1, true, 'l') = 1; house(2, 2, 1, true, 'l') = 2;
