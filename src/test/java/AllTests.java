@@ -6,9 +6,12 @@ public final class AllTests {
     public static void main(String[] args) {
         Checks checks = new Checks();
         FaceTest.run(checks);
+        LanguageTest.run(checks);
+        ReadmeTest.run(checks);
         PromiseTest.run(checks);
         Cases cases = new Cases(checks);
         TermsTest.run(cases);
+        SentencesTest.run(cases);
         HousesTest.run(cases);
         MovesTest.run(cases);
         GameNumbersTest.run(cases);

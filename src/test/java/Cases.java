@@ -26,7 +26,7 @@ final class Cases {
 
     void tellUncited() {
         for (String sentence : document.uncited()) {
-            checks.due("a boundary case for «" + sentence + "»", "one", "none");
+            checks.due("a case for «" + sentence + "»", "one", "none");
         }
     }
 

@@ -9,14 +9,15 @@ import java.util.Set;
 import java.util.TreeSet;
 
 /**
- * The document's sentences. Each boundary case bears a piece of the sentence that it is about, so that one finds it
- * there; and a sentence that names a boundary case and is borne by none is told.
+ * The document's sentences. Each case bears a piece of the sentence that it is about, so that one finds it there; and a
+ * sentence of "What it is", "Terms" or a promise that is borne by none is told.
  */
 final class Document {
     private static final Path FILE = Path.of("../shared/DOC.md");
     static final String TERMS = "Terms";
     static final String WHAT_IT_IS = "What it is";
-    /** They name no boundary case. */
+    static final int PROMISES = 36;
+    /** They ask nothing of a call. */
     private static final Set<String> FREE = Set.of("Tiles.", "Games.", "Bets.", "Appeals.", "Journal.", "Exceptions.",
             "The class is not thread-safe.");
 
@@ -24,11 +25,31 @@ final class Document {
     private final Set<String> cited = new TreeSet<>();
 
     Document() {
+        read(lines());
+    }
+
+    private static List<String> lines() {
         try {
-            read(Files.readAllLines(FILE));
+            return Files.readAllLines(FILE);
         } catch (IOException e) {
             throw new IllegalStateException("there is no " + FILE, e);
         }
+    }
+
+    /** What stands between the next fences behind a line that begins so, just as it is written. */
+    static List<String> block(String start) {
+        List<String> rows = new ArrayList<>();
+        boolean isBehind = false;
+        int fences = 0;
+        for (String line : lines()) {
+            isBehind = isBehind || line.startsWith(start);
+            if (isBehind && line.startsWith("```")) {
+                fences++;
+            } else if (isBehind && fences == 1) {
+                rows.add(line);
+            }
+        }
+        return rows;
     }
 
     static String promise(int number) {
@@ -47,9 +68,14 @@ final class Document {
         return isThere;
     }
 
-    /** The sentences that name a boundary case and are borne by none. */
+    /** The sentences that ask something and are borne by none, and the promises that do not stand there. */
     List<String> uncited() {
         List<String> missing = new ArrayList<>();
+        for (int number = 1; number <= PROMISES; number++) {
+            if (!sections.containsKey(promise(number))) {
+                missing.add(promise(number));
+            }
+        }
         sections.forEach((section, sentences) -> {
             for (String sentence : sentences) {
                 if (isDue(section, sentence) && !cited.contains(section + ": " + sentence)) {
@@ -61,11 +87,8 @@ final class Document {
     }
 
     private static boolean isDue(String section, String sentence) {
-        if (section.equals(TERMS)) {
-            return !FREE.contains(sentence);
-        }
-        return section.startsWith("Promise")
-                && (sentence.startsWith("Throws") || sentence.startsWith("- ") || sentence.contains("Dominofs()"));
+        boolean isAsking = section.startsWith("Promise") || section.equals(TERMS) || section.equals(WHAT_IT_IS);
+        return isAsking && !FREE.contains(sentence);
     }
 
     private void read(List<String> lines) {
@@ -91,8 +114,7 @@ final class Document {
         String text = paragraph.toString().replace("`", "").strip().replaceAll("\\s+", " ");
         paragraph.setLength(0);
         if (!text.isEmpty()) {
-            List<String> sentences = sections.computeIfAbsent(section, key -> new ArrayList<>());
-            sentences.addAll(section.equals(TERMS) ? List.of(text.split("(?<=\\.) ")) : List.of(text));
+            sections.computeIfAbsent(section, key -> new ArrayList<>()).addAll(List.of(text.split("(?<=\\.) ")));
         }
     }
 }

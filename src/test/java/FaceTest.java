@@ -1,56 +1,28 @@
+import java.io.IOException;
 import java.lang.reflect.Constructor;
 import java.lang.reflect.Field;
 import java.lang.reflect.Method;
 import java.lang.reflect.Modifier;
+import java.nio.file.Files;
+import java.nio.file.Path;
 import java.util.ArrayList;
 import java.util.List;
 import java.util.TreeSet;
 
 /** The class has the document's face, just so, and nothing else that another class could use. */
 final class FaceTest {
-    private static final String FACE = """
-        public int house(int pips, int players, int tiles, boolean areDraws, char ruling) throws IllegalArgumentException, IllegalStateException;
-        public int game(int house, int seed) throws IndexOutOfBoundsException, IllegalArgumentException, IllegalStateException;
-        public boolean lay(int game, int tile, boolean isLeft) throws IndexOutOfBoundsException, IllegalArgumentException, IllegalStateException, UnsupportedOperationException;
-        public int draw(int game) throws IndexOutOfBoundsException, IllegalStateException, UnsupportedOperationException;
-        public boolean pass(int game) throws IndexOutOfBoundsException, IllegalStateException, UnsupportedOperationException;
-        public int mover(int game) throws IndexOutOfBoundsException, IllegalStateException;
-        public long hand(int game, int player) throws IndexOutOfBoundsException;
-        public int stock(int game) throws IndexOutOfBoundsException;
-        public int end(int game, boolean isLeft) throws IndexOutOfBoundsException, NoSuchElementException;
-        public int line(int game) throws IndexOutOfBoundsException;
-        public char sign(int game, int place, boolean isTurned) throws IndexOutOfBoundsException, NoSuchElementException;
-        public boolean isOver(int game) throws IndexOutOfBoundsException;
-        public boolean isBlocked(int game) throws IndexOutOfBoundsException;
-        public int winner(int game) throws IndexOutOfBoundsException, NoSuchElementException;
-        public char why(int depth) throws NoSuchElementException;
-        public int bet(int better, int game, int player, int coins) throws IndexOutOfBoundsException, IllegalArgumentException, IllegalStateException;
-        public int purse(int better) throws IndexOutOfBoundsException;
-        public int pool(int game) throws IndexOutOfBoundsException;
-        public int paid(int game, int bet) throws IndexOutOfBoundsException;
-        public int club();
-        public int appeal(int game, char ruling) throws IndexOutOfBoundsException, IllegalArgumentException, UnsupportedOperationException, IllegalStateException;
-        public char ruling(int game) throws IndexOutOfBoundsException;
-        public int entries();
-        public int loose();
-        public char entry(int index) throws NoSuchElementException;
-        public int gameOf(int index) throws NoSuchElementException;
-        public int flush();
-        public int crash();
-        public int checkpoint() throws UnsupportedOperationException, IllegalStateException;
-        public int behind(int checkpoint) throws IndexOutOfBoundsException;
-        public long replay(int checkpoint) throws IndexOutOfBoundsException;
-        public long checksum();
-        public float playedShare() throws NoSuchElementException;
-        public double meanPurse();
-        public boolean isSound();
-        """;
+    private static final Path SOURCE = Path.of("src/main/java/Dominofs.java");
+    private static final String CONSTRUCTOR = "public Dominofs();";
+
+    /** The members as the document writes them, without the constructor. */
+    private static final List<String> FACE = members();
 
     private FaceTest() {
     }
 
     static void run(Checks checks) {
         checks.due("the class's modifiers", Modifier.PUBLIC | Modifier.FINAL, Dominofs.class.getModifiers());
+        checks.due("how many methods", 35, FACE.size());
         checks.due("the methods", due(), got());
         Constructor<?>[] constructors = Dominofs.class.getDeclaredConstructors();
         checks.due("the constructors", 1, constructors.length);
@@ -62,15 +34,51 @@ final class FaceTest {
             checks.due("static " + inside, true, Modifier.isStatic(inside.getModifiers()));
             checks.due("not public " + inside, 0, inside.getModifiers() & (Modifier.PUBLIC | Modifier.PROTECTED));
             for (Method method : inside.getDeclaredMethods()) {
-                checks.due("no name of the face " + method, false, FACE.contains(" " + method.getName() + "("));
+                checks.due("no name of the face " + method, false, names().contains(method.getName()));
             }
+        }
+        asWritten(checks);
+    }
+
+    private static List<String> members() {
+        List<String> rows = new ArrayList<>();
+        for (String line : Document.block("## The public face")) {
+            String row = line.strip();
+            if (row.startsWith("public ") && row.endsWith(";") && !row.equals(CONSTRUCTOR)) {
+                rows.add(row);
+            }
+        }
+        return rows;
+    }
+
+    /** The names of the document's methods. */
+    static List<String> names() {
+        return FACE.stream().map(row -> row.replaceAll("\\(.*", "").replaceAll(".* ", "")).toList();
+    }
+
+    /** Each member stands in the source with the very names and exceptions, and nothing else is public. */
+    private static void asWritten(Checks checks) {
+        String source = source();
+        for (String row : FACE) {
+            checks.due("as it is written: " + row, true, source.contains(" " + row.replace(";", " {")));
+        }
+        checks.due("as it is written: " + CONSTRUCTOR, true, source.contains(CONSTRUCTOR.replace(";", " {")));
+        checks.due("how often 'public' stands there", FACE.size() + 2, source.split("\\bpublic\\b").length - 1);
+        checks.due("'protected' stands there", false, source.contains(" protected "));
+    }
+
+    private static String source() {
+        try {
+            return Files.readString(SOURCE).replaceAll("\\s+", " ");
+        } catch (IOException e) {
+            throw new IllegalStateException("there is no " + SOURCE, e);
         }
     }
 
     private static TreeSet<String> due() {
         TreeSet<String> rows = new TreeSet<>();
-        for (String row : FACE.strip().split("\n")) {
-            String text = row.strip().replace(";", "");
+        for (String row : FACE) {
+            String text = row.replace(";", "");
             String head = text.substring(0, text.indexOf('('));
             List<String> types = new ArrayList<>();
             for (String part : text.substring(text.indexOf('(') + 1, text.indexOf(')')).split(", ")) {

@@ -40,6 +40,9 @@ final class PromiseTest {
     }
 
     private void example() {
+        String example = String.join(" ", Document.block("<p>Examples:"));
+        checks.due("the calls of the document's example", 41, Rows.of(example).size());
+        checks.script("the document's example, as it stands there", example);
         checks.script("the document's example", """
             house(2, 2, 3, false, 'l') = 0; game(0, 5) = 0; hand(0, 0) = 56; stock(0) = 0; mover(0) = 0;
             bet(0, 0, 0, 30) = 30; bet(1, 0, 1, 20) = 50; pool(0) = 50;
