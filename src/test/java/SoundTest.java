@@ -44,35 +44,55 @@ final class SoundTest {
         Dominofs club = club(ENTRIES);
         moveCoins(each, "what is", club, get(club, "now"));
         for (int checkpoint = 0; checkpoint < 5; checkpoint++) {
-            Object kept = ((List<?>) get(club, "checkpoints")).get(checkpoint);
-            moveCoins(each, "the checkpoint " + checkpoint, club, kept);
+            moveCoins(each, "the checkpoint " + checkpoint, club, ((List<?>) get(club, "checkpoints")).get(checkpoint));
         }
-        for (int number = 0; number < 2; number++) {
-            breakGame(each, club, ((Object[]) get(get(club, "now"), "games"))[number], " of the game " + number);
-        }
+        breakGame(each, club, gameOf(get(club, "now"), 0), "of the game 0", 1);
+        breakGame(each, club, gameOf(get(club, "now"), 1), "of the game 1", 0);
+        Object kept = ((List<?>) get(club, "checkpoints")).get(0);
+        breakGame(each, club, gameOf(kept, 0), "of the game 0 that the checkpoint 0 keeps", 1);
+        breakRow(each, club, kept, "purses", 0, 3, "of the checkpoint 0");
+        breakNumber(each, club, kept, "clubCoins", "of the checkpoint 0");
         each.due("all as it was", true, club.isSound());
     }
 
-    private static void breakGame(Cases.Case each, Dominofs club, Object game, String which)
-            throws ReflectiveOperationException {
-        for (String name : List.of("mover", "winner", "laid", "dealt", "appeals")) {
-            Field field = find(game.getClass(), name);
-            field.setInt(game, field.getInt(game) + 1);
-            each.due("another " + name + which, false, club.isSound());
-            field.setInt(game, field.getInt(game) - 1);
-        }
-        exchange(each, "two hands" + which, club, (int[]) get(game, "hands"), 0);
-        exchange(each, "two tiles of the stock" + which, club, (int[]) get(game, "order"), 4);
+    private static Object gameOf(Object table, int game) throws ReflectiveOperationException {
+        return ((Object[]) get(table, "games"))[game];
     }
 
-    /** Exchanges the figures at the place and behind it for once. */
-    private static void exchange(Cases.Case each, String what, Dominofs club, int[] row, int place) {
-        int kept = row[place];
-        row[place] = row[place + 1];
-        row[place + 1] = kept;
-        each.due("exchanged " + what, false, club.isSound());
-        row[place + 1] = row[place];
-        row[place] = kept;
+    /** Changes all that a game knows, one after the other; lastBet is the last bet that is changed. */
+    private static void breakGame(Cases.Case each, Dominofs club, Object game, String which, int lastBet)
+            throws ReflectiveOperationException {
+        for (String name : List.of("mover", "winner", "laid", "dealt", "appeals", "lastLayer", "passes")) {
+            breakNumber(each, club, game, name, which);
+        }
+        breakRow(each, club, game, "hands", 0, 1, which);
+        breakRow(each, club, game, "order", 4, 5, which);
+        breakRow(each, club, game, "chain", 0, 1, which);
+        Object bets = get(game, "bets");
+        breakNumber(each, club, bets, "count", which);
+        breakNumber(each, club, bets, "coins", which);
+        for (String name : List.of("betters", "players", "stakes", "payments")) {
+            breakRow(each, club, bets, name, 0, lastBet, which);
+        }
+    }
+
+    private static void breakNumber(Cases.Case each, Dominofs club, Object owner, String name, String which)
+            throws ReflectiveOperationException {
+        Field field = find(owner.getClass(), name);
+        int kept = field.getInt(owner);
+        field.setInt(owner, kept + 1);
+        each.due("another " + name + " " + which, false, club.isSound());
+        field.setInt(owner, kept);
+    }
+
+    private static void breakRow(Cases.Case each, Dominofs club, Object owner, String name, int first, int last,
+            String which) throws ReflectiveOperationException {
+        int[] row = (int[]) get(owner, name);
+        for (int place = first; place <= last; place++) {
+            row[place] ^= 1;
+            each.due("others in " + name + " at " + place + " " + which, false, club.isSound());
+            row[place] ^= 1;
+        }
     }
 
     /** All coins are still 400. */
