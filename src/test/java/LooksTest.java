@@ -7,6 +7,19 @@ final class LooksTest {
         house(2, 2, 3, false, 'l') = 0; game(0, 1) = 0; lay(0, 0, true) = false; lay(0, 1, true) = false;
         lay(0, 4, true) = false;
         """;
+    private static final String LONGEST_LINE = """
+        house(6, 2, 2, true, 'l') = 0; game(0, 438975) = 0; lay(0, 11, true) = false; draw(0) = 0; draw(0) = 3;
+        draw(0) = 10; lay(0, 10, true) = false; draw(0) = 5; lay(0, 5, false) = false; lay(0, 15, true) = false;
+        draw(0) = 8; lay(0, 8, true) = false; lay(0, 0, false) = false; draw(0) = 24; draw(0) = 1;
+        lay(0, 1, false) = false; draw(0) = 2; draw(0) = 26; draw(0) = 16; draw(0) = 19; draw(0) = 13; draw(0) = 14;
+        draw(0) = 9; lay(0, 9, true) = false; lay(0, 18, true) = false; lay(0, 14, true) = false; draw(0) = 27;
+        draw(0) = 4; draw(0) = 17; lay(0, 17, true) = false; lay(0, 26, true) = false; draw(0) = 25;
+        lay(0, 25, true) = false; lay(0, 16, true) = false; draw(0) = 21; draw(0) = 23; draw(0) = 20; draw(0) = 7;
+        lay(0, 7, false) = false; lay(0, 2, true) = false; lay(0, 4, true) = false; lay(0, 22, true) = false;
+        lay(0, 24, true) = false; draw(0) = 12; lay(0, 12, false) = false; lay(0, 27, true) = false; draw(0) = 6;
+        lay(0, 6, true) = false; lay(0, 21, false) = false; lay(0, 3, true) = false; lay(0, 20, false) = false;
+        lay(0, 19, true) = false; lay(0, 23, false) = true;
+        """;
 
     private final Cases cases;
 
@@ -112,7 +125,15 @@ final class LooksTest {
                 house(2, 2, 3, false, 'l') = 0; game(0, 1) = 0; line(0) = 0; lay(0, 0, true) = false; line(0) = 5;
                 lay(0, 1, true) = false; line(0) = 10; lay(0, 4, true) = false; line(0) = 15;
                 """)
-            .holds("26 tiles", FullJournal.of(200) + "line(0) = 130; line(4) = 0;");
+            .holds("26 tiles", FullJournal.of(200) + "line(0) = 130; line(4) = 0;")
+            .holds("27 tiles, as the game is over before all 28 lie", LONGEST_LINE + """
+                line(0) = 135; sign(0, 0, false) = [; sign(0, 1, false) = 4; sign(0, 3, false) = 3;
+                sign(0, 131, false) = 5; sign(0, 133, false) = 4; sign(0, 134, false) = ];
+                sign(0, 135, false) = throws NoSuchElementException; sign(0, 3, true) = 5; sign(0, 131, true) = 3;
+                sign(0, 134, true) = ]; sign(0, 135, true) = throws NoSuchElementException; end(0, true) = 4;
+                end(0, false) = 4; winner(0) = 0; hand(0, 0) = 0; hand(0, 1) = 8192; stock(0) = 0; checkpoint() = 0;
+                replay(0) = 215375938720756; replay(-1) = 215375938720756;
+                """);
     }
 
     private void places() {
